@@ -722,9 +722,9 @@ public final class SensorTree {
 
         private static boolean isWord(Tape tape, int at, int size, int word) {
             for (int i = 0; i < FIELD; i++) {
-                int is = i < size ? tape.byteAt(at + i) : ' ';
-                int at6 = word * FIELD + i;
-                if (at6 < 0 || at6 >= WORDS.length() || WORDS.charAt(at6) != is) {
+                int met = i < size ? tape.byteAt(at + i) : ' ';
+                int in = word * FIELD + i;
+                if (in >= WORDS.length() || WORDS.charAt(in) != met) {
                     return false;
                 }
             }
@@ -750,16 +750,18 @@ public final class SensorTree {
             fault = tokens.fault;
             place = tokens.faultPlace;
             draft.clear();
-            for (int at = 0; at < tokens.size && fault == Tokens.NO_FAULT; ) {
+            for (int at = 0; at < tokens.size && fault == Tokens.NO_FAULT; at += tellSize(at)) {
                 tell(tape, at);
-                at += 1 + Tokens.shapeOf(tokens.sort[at]).length();
             }
+        }
+
+        private int tellSize(int at) {
+            return 1 + Tokens.shapeOf(tokens.sort[at]).length();
         }
 
         private void tell(Tape tape, int at) {
             int first = tokens.sort[at];
-            int last = at + Tokens.shapeOf(first).length();
-            if (last >= tokens.size) {
+            if (at + tellSize(at) > tokens.size) {
                 return;
             }
             if (first == Tokens.POST) {

@@ -8,26 +8,30 @@ public final class FuzzTest {
     private final Random random;
     private final SensorTree tree = new SensorTree();
     private final Model model = new Model();
+    /** In some runs hardly a tick goes by, so that messages pile up to the most that wait. */
+    private final boolean piling;
+    private int mostWaiting = 0;
     private String run;
 
     private FuzzTest(int seed) {
         random = new Random(seed);
+        piling = seed % 5 == 0;
         run = "run " + seed;
     }
 
     public static void main(String[] args) {
         int runs = args.length > 0 ? Integer.parseInt(args[0]) : 400;
         int from = args.length > 1 ? Integer.parseInt(args[1]) : 0;
-        int rows = 0;
+        int mostWaiting = 0;
         for (int seed = from; seed < from + runs; seed++) {
             FuzzTest test = new FuzzTest(seed);
             test.goThrough();
             if (test.check.wrong() != 0) {
                 test.check.finish("FuzzTest, run " + seed);
             }
-            rows++;
+            mostWaiting = Math.max(mostWaiting, test.mostWaiting);
         }
-        System.out.println("FuzzTest: " + rows + " runs alike");
+        System.out.println("FuzzTest: " + runs + " runs alike, at most " + mostWaiting + " messages waited");
     }
 
     private int upTo(int n) {
@@ -130,9 +134,9 @@ public final class FuzzTest {
         for (int i = upTo(6); i > 0; i--) {
             readBoth(badText());
         }
-        readBoth(goodText());
+        readBoth(goodText() + (piling ? "apart 0; rise 999; noise 0; goal costs;" : ""));
         compareAll();
-        int calls = 60 + upTo(60);
+        int calls = piling ? 150 : 60 + upTo(60);
         for (int i = 0; i < calls && check.wrong() == 0; i++) {
             act();
             compareState();
@@ -156,7 +160,15 @@ public final class FuzzTest {
         boolean way = random.nextBoolean();
         int n = someTicks();
         String was = run;
-        switch (random.nextInt(14)) {
+        int sort = random.nextInt(14);
+        if (piling && model.s.tick <= 40) {
+            n = 41;
+            sort = 0;
+        } else if (piling && !oneIn(60)) {
+            way = tree.link(l, 3) == 0;
+            sort = 4 + sort % 3;
+        }
+        switch (sort) {
             case 0, 1, 2, 3 -> {
                 run = was + " ticks(" + n + ")";
                 check.due(run, tree.ticks(n), model.ticks(n));
@@ -204,6 +216,7 @@ public final class FuzzTest {
     }
 
     private void compareState() {
+        mostWaiting = Math.max(mostWaiting, tree.count(3));
         for (int what = -1; what <= 18; what++) {
             check.due(run + " > count(" + what + ")", tree.count(what), model.count(what));
         }
