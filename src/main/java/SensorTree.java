@@ -687,12 +687,13 @@ public final class SensorTree {
         }
 
         private static boolean isOf(int found, char want) {
-            switch (want) {
-                case 'n': return found == NAME;
-                case 'i': return found == INT;
-                case 'g': return found == HOPS || found == COSTS;
-                default: return found == SIGN;
+            if (want == 'n') {
+                return found == NAME;
             }
+            if (want == 'i') {
+                return found == INT;
+            }
+            return want == 'g' ? found == HOPS || found == COSTS : found == SIGN;
         }
 
         private static int sortOf(Tape tape, int at, int end) {

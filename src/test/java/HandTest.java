@@ -18,6 +18,7 @@ public final class HandTest {
         rise();
         power();
         repair();
+        lowestOfVersion();
         lesserVersion();
         gonesAndReaches();
         gone();
@@ -108,6 +109,11 @@ public final class HandTest {
         tree.ticks(3);
         check.due("repair()", tree.repair(), 2);
         check.due("LONG is FIRST already: nothing happens", tree.post(0, 8), 3);
+        SensorTree three = Check.of("post r; post a; post b; first 8; seed 77;");
+        int[] fires = {4 + 2, 4 + 2, 4 + 3};
+        for (int post = 0; post < fires.length; post++) {
+            check.due("FIRES of " + post, three.post(post, 10), fires[post]);
+        }
     }
 
     private static void spared() {
@@ -184,6 +190,10 @@ public final class HandTest {
         check.due("alike, one down: PARENT", alike.post(3, 3), 2);
         alike.join(3, true);
         check.due("alike, it stays: PARENT", alike.post(3, 3), 2);
+        SensorTree three = Check.of("post r;post a;post b;post d;post c;link r a 1;link r b 1;link r d 1;link c d 1;link c b 1;link c a 1;first 2;twice 0;");
+        three.ticks(10);
+        three.join(5, false);
+        check.due("two alike are left: PARENT", three.post(4, 3), 2);
     }
 
     private static void cost() {
@@ -280,6 +290,17 @@ public final class HandTest {
         }
         check.due("repair() at 99", tree.repair(), -1);
         counts(tree, 9, 20);
+    }
+
+    private static void lowestOfVersion() {
+        SensorTree tree = Check.of(PAIR + "goal costs;");
+        tree.ticks(4);
+        tree.cost(0, 3);
+        post(tree, 1, 1, 0, 40, 0, 20);
+        tree.repair();
+        post(tree, 1, 1, 0, 40, 0, 20);
+        tree.ticks(4);
+        post(tree, 1, 1, 1, 40, 0, 40);
     }
 
     private static void lesserVersion() {
@@ -450,6 +471,20 @@ public final class HandTest {
         check.due("LOOP", tree.send(2, 0), 4);
         check.due("LOOP, hops", tree.would(2, 0, 1), 3);
         check.due("LOOP, AGAINST", tree.would(2, 0, 2), 2);
+        // UP to a RANK alike: a has 30 now, as b has
+        SensorTree up = Check.of(CHAIN);
+        up.ticks(60);
+        up.cost(0, 2);
+        check.due("RANK of a", up.post(1, 2), 30);
+        check.due("UP to one alike", up.would(2, 0, 2), 1);
+        check.due("it came", up.would(2, 0, 0), 0);
+        // DOWN to a RANK alike: b hangs on r now, as a does
+        SensorTree down = Check.of("post r;post a;post b;link r a 1;link r b 9;link a b 1;goal costs;first 2;twice 0;enough 9;rise 999;");
+        down.ticks(10);
+        down.cost(1, 1);
+        check.due("RANK of b", down.post(2, 2), 20);
+        check.due("DOWN to one alike", down.would(1, 2, 2), 1);
+        check.due("it came", down.would(1, 2, 0), 0);
     }
 
     private static void undo() {
