@@ -182,6 +182,15 @@ public final class EdgeAheadTest {
         for (int i = 0; i < seeds.length; i++) {
             Edge.due("soon()", Check.of(PAIR + STEADY + "noise 99;seed " + seeds[i] + ";").soon(), due[i]);
         }
+        // who can't have a RANK needs none; nothing was asked ahead of this, then a LINK went down
+        SensorTree apart = Check.of("post r;post a;");
+        Edge.due("soon(): a has no LINK", apart.soon(), 0);
+        SensorTree cut = Check.of(PAIR + STEADY);
+        cut.right();
+        cut.join(0, false);
+        Edge.due("soon(): the LINK is down", cut.soon(), 0);
+        cut.join(0, true);
+        Edge.due("soon(): the LINK is up", cut.soon(), 2);
         // first: it is RIGHT, then not, then again
         SensorTree twice = Check.of("post r;post a;post b;link r a 9;link r b 1;link a b 1;goal costs;" + STEADY);
         Edge.due("soon()", twice.soon(), 2);
@@ -433,7 +442,20 @@ public final class EdgeAheadTest {
         Edge.due("year(1, 10) of SEED 9999", Check.of(PAIR + STEADY + "seed 9999;").year(1, 10), 0);
         Edge.due("year(2, 10) of SEED 9999", Check.of(PAIR + STEADY + "seed 9999;").year(2, 10), 10);
         Edge.due("year(200, 10) without POSTS", new SensorTree().year(200, 10), 10);
-        // the SEED of what goes on stays the text's
+        Edge.due("year(0, 3): a has no LINK", Check.of("post r;post a;").year(0, 3), 3);
+        // the SEED of what goes on, or is asked then, stays the text's
+        for (int seed = 500; seed < 520; seed++) {
+            SensorTree asked = Check.of(text + seed + ";");
+            int soon = asked.soon();
+            int lull = asked.lull(200);
+            int busy = asked.busy(200);
+            asked.year(200, 10);
+            Edge.due("soon() behind year()", asked.soon(), soon);
+            asked.year(200, 10);
+            Edge.due("lull(200) behind year()", asked.lull(200), lull);
+            asked.year(200, 10);
+            Edge.due("busy(200) behind year()", asked.busy(200), busy);
+        }
         SensorTree after = Check.of(text + "500;");
         after.year(200, 10);
         after.ticks(30);

@@ -44,6 +44,45 @@ public final class EdgeCallsTest {
         Edge.due("then(2, 200, 0)", long1.then(2, 200, 0), 30);
     }
 
+    /** Every call on an object that is full: 7 POSTS, 16 LINKS, all of them with what they can have. */
+    static void usedWhenFull() {
+        Edge.says("Use", "An object is used for at most 512 calls after it has been made;");
+        String text = "post a;post b;post c;post d;post e;post f;post g;link a b 1;link b c 1;link c d 1;link d e 1;link e f 1;link f g 1;"
+            + "link a c 9;link a d 9;link a e 9;link b d 9;link b e 9;link b f 9;link c e 9;link c f 9;link c g 9;link d f 9;";
+        SensorTree tree = Check.of(text + STEADY);
+        tree.ticks(60);
+        int[][] counts = {{0, 7}, {1, 16}, {2, 60}, {4, 210}, {7, 21}, {9, 1}, {10, 0b1111111}, {12, 0}, {13, 0}, {14, 0}, {15, 70}, {16, 0},
+            {17, 0}};
+        for (int[] whatAndDue : counts) {
+            Edge.count(tree, whatAndDue[0], whatAndDue[1]);
+        }
+        for (int post = 0; post < 7; post++) {
+            Edge.due("truth(" + post + ")", tree.truth(post), 10 + 10 * post);
+            Edge.due("below(" + post + ")", tree.below(post), 0b1111111 << post + 1 & 0b1111111);
+            Edge.due("way(" + post + ", " + post + ")", tree.way(post, post), 0);
+            Edge.due("needs(" + post + ")", tree.needs(post), (1 << post) - 1);
+            Edge.due("then(" + post + ", 200, 1)", tree.then(post, 200, 1), post == 0 ? NOBODY : post - 1);
+            for (int to = 0; to < 7; to++) {
+                Edge.due("would(" + post + ", " + to + ", 0)", tree.would(post, to, 0), post == to ? NONE : 0);
+                Edge.due("would(" + post + ", " + to + ", 1)", tree.would(post, to, 1), post == to ? NONE : Math.abs(post - to));
+            }
+        }
+        for (int link = 0; link < 16; link++) {
+            Edge.due("cut(" + link + ")", tree.cut(link), 0);
+        }
+        int[] asked = {tree.right(), tree.circle(), tree.soon(), tree.deep(), tree.reached(), tree.stretch(), tree.year(200, 10)};
+        int[] due = {1, 0, 0, 6, 42, 0, 10};
+        for (int i = 0; i < due.length; i++) {
+            Edge.due("right, circle, soon, deep, reached, stretch, year: " + i, asked[i], due[i]);
+        }
+        for (int post = 1; post < 7; post++) {
+            tree.power(post, false);
+        }
+        Edge.count(tree, 10, 1);
+        Edge.due("truth(6), off", tree.truth(6), NONE);
+        Edge.due("right(): all are off", tree.right(), 1);
+    }
+
     // ---- promises 6 to 12: what is done
 
     static void promise6Ticks() {
@@ -246,6 +285,36 @@ public final class EdgeCallsTest {
         String[] all = line.split(" ");
         all[11] = "";
         return String.join(" ", all);
+    }
+
+    static void promise12UndoOfAllThatIsCounted() {
+        Edge.says("Promise 12", "is undone: true;");
+        // POISON, what RESTS, what was lost and spared is undone, too, and held
+        SensorTree tree = Check.of(CHAIN + "goal costs;first 2;twice 2;enough 1;rise 0;rest 9;noise 20;seed 4;");
+        tree.ticks(40);
+        String calm = goingOn(tree);
+        tree.cost(0, 2);
+        tree.ticks(3);
+        Edge.due("it RESTS", tree.post(1, 5), 6);
+        Edge.due("POISONED", tree.count(12) > 0, true);
+        Edge.due("lost", tree.count(13) > 0, true);
+        Edge.due("spared", tree.count(14) > 0, true);
+        String rests = goingOn(tree);
+        tree.hold(0);
+        tree.ticks(50);
+        Edge.due("RESTS no more", tree.post(1, 5), 0);
+        Edge.due("undo()", tree.undo(), true);
+        Edge.alike("as it stood", goingOn(tree), rests);
+        Edge.due("then(1, 5, 1): it RESTS still", tree.then(1, 5, 1), NOBODY);
+        Edge.due("then(1, 6, 1): it CHOSE", tree.then(1, 6, 1), 0);
+        tree.undo();
+        tree.undo();
+        Edge.alike("as it stood", goingOn(tree), calm);
+        tree.restore(0);
+        Edge.alike("as it was held", goingOn(tree), rests);
+        tree.ticks(50);
+        tree.restore(0);
+        Edge.alike("as it was held", goingOn(tree), rests);
     }
 
     static void promise12LastTwenty() {
@@ -793,6 +862,13 @@ public final class EdgeCallsTest {
         // the three GONES are from or to a, which is off; r, b and c put ADVERTS
         tree.ticks(1);
         counts(tree, 4, 2, 7, 3, 15, 4, 3, 3, 20, 4, 0b1101, 1, 1, 3, 0, 10, 0b0010, 0b1100);
+        // one that RESTS for one tick more RESTS
+        SensorTree rests = Check.of(PAIR + "goal costs;first 2;twice 0;enough 9;rise 0;rest 1;");
+        rests.ticks(4);
+        rests.cost(0, 2);
+        Edge.count(rests, 16, 0b10);
+        rests.ticks(1);
+        Edge.count(rests, 16, 0);
         // the greatest RANK is that of one that is off, too, if it had one when it went off
         SensorTree off = chain();
         off.power(2, false);

@@ -238,6 +238,21 @@ public final class EdgeTextTest {
         fault(posts(2) + "link a b 10;", WRONG, 23);
     }
 
+    static void fullTextsOneBehindTheOther() {
+        Edge.says("Terms", "LINKS, 16 at most,");
+        // what was told ahead, with a FAULT or without, takes no room
+        SensorTree tree = new SensorTree();
+        for (int i = 0; i < 3; i++) {
+            Edge.due("read() of 7 POSTS and 16 LINKS", Check.read(tree, links(16)), 0);
+            Edge.due("read() of 17 LINKS", Check.read(tree, links(17)), ROOM);
+            Edge.due("read() of 8 POSTS", Check.read(tree, posts(8)), ROOM);
+            Edge.count(tree, 0, 7);
+            Edge.count(tree, 1, 16);
+        }
+        Edge.due("read() of 400 TOKENS", Check.read(tree, "rest1;".repeat(133) + "post"), SYNTAX);
+        Edge.due("read() of few", Check.read(tree, "post r;"), 0);
+    }
+
     static void firstIsEven() {
         Edge.says("Terms", "FIRST 2 .. 8 (4; it is made even, one less if it is odd),");
         bounds("first", 2, 8);

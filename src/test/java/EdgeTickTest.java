@@ -552,6 +552,18 @@ public final class EdgeTickTest {
         Edge.until(other, () -> other.heard(2, 1) == 40);
         timer(other, 2, 2, 1, 0, 1);
         Edge.due("it CHOSE in that tick", other.post(2, 2), 50);
+        // the TIMER begins anew though nothing else comes of it: the ROOT hears a's RANK, b hears what is no PARENT to it
+        SensorTree root = Check.of(PAIR + "goal costs;first 2;twice 3;enough 9;");
+        Edge.until(root, () -> root.post(0, LONG) == 16 && root.post(0, FAR) > 3 && root.post(0, FAR) < 10);
+        root.cost(0, 3);
+        Edge.until(root, () -> root.heard(0, 1) == 40);
+        timer(root, 0, 2, 1, 0, 1);
+        SensorTree aside = Check.of("post r;post a;post b;link r a 1;link r b 1;link a b 9;goal costs;rise 999;apart 99;first 2;twice 3;enough 9;");
+        Edge.until(aside, () -> aside.post(2, LONG) == 16 && aside.post(2, FAR) > 3 && aside.post(2, FAR) < 10);
+        aside.cost(0, 3);
+        Edge.until(aside, () -> aside.heard(2, 1) == 40);
+        Edge.post(aside, 2, 2, 20);
+        timer(aside, 2, 2, 1, 0, 1);
         // of a greater VERSION likewise: what it HEARD is NEVER then, so an ADVERT of NEVER is alike and counted
         SensorTree poison = Check.of(CHAIN + "rise 0;rest 20;first 2;twice 1;enough 9;");
         poison.ticks(40);

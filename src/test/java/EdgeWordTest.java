@@ -175,6 +175,79 @@ public final class EdgeWordTest {
         Edge.due("nothing is put on", stale.count(5), reaches);
     }
 
+    static void olderReachIsNotPutOn() {
+        Edge.says("II", "or one of no greater SEQUENCE:");
+        // p stands between r and k, m; d left k for m, k's ROUTE to it is older than p's; k tells p of it once more
+        SensorTree tree = Check.of("post r;post p;post k;post m;post d;link r p 1;link p k 1;link p m 1;link k d 1;link m d 1;" + STEADY);
+        tree.ticks(20);
+        Edge.route(tree, 1, 4, 2);
+        tree.join(3, false);
+        tree.ticks(4);
+        Edge.route(tree, 1, 4, 3);
+        Edge.route(tree, 2, 4, 4);
+        tree.join(1, false);
+        tree.join(1, true);
+        Edge.post(tree, 2, 3, 1);
+        int reaches = tree.count(5);
+        tree.ticks(1);
+        Edge.route(tree, 1, 4, 3);
+        Edge.due("of k's two REACHES that of k alone is put on", tree.count(5), reaches + 1);
+    }
+
+    static void otherGoneIsNotPutOn() {
+        Edge.says("II", "GONE: if n's ROUTE to d is m");
+        // d leaves k for m by hand: its GONE comes to k, which puts it on to p; but p has heard of m by then
+        SensorTree tree = Check.of("post r;post p;post k;post m;post d;link r p 1;link p k 1;link p m 1;link k d 1;link m d 9;apart 0;" + STEADY);
+        tree.ticks(20);
+        Edge.route(tree, 1, 4, 2);
+        Edge.until(tree, () -> tree.count(3) == 0);
+        tree.cost(3, 9);
+        tree.cost(4, 1);
+        Edge.post(tree, 4, 3, 3);
+        int gones = tree.count(6);
+        tree.ticks(1);
+        Edge.due("k puts it on", tree.count(6), gones + 1);
+        Edge.route(tree, 2, 4, NOBODY);
+        tree.ticks(1);
+        Edge.due("p took it, and puts it on", tree.count(6), gones + 2);
+        tree.ticks(1);
+        Edge.route(tree, 1, 4, 3);
+        Edge.route(tree, 0, 4, 1);
+        // d leaves k for p itself: k puts the GONE on, but p's ROUTE is d by then
+        SensorTree near = Check.of("post r;post p;post k;post d;link r p 1;link p k 1;link k d 1;link p d 9;apart 0;" + STEADY);
+        near.ticks(20);
+        Edge.until(near, () -> near.count(3) == 0);
+        near.cost(3, 1);
+        Edge.post(near, 3, 3, 1);
+        gones = near.count(6);
+        near.ticks(1);
+        Edge.due("k puts it on", near.count(6), gones + 1);
+        near.ticks(2);
+        Edge.due("p does not", near.count(6), gones + 1);
+        Edge.route(near, 1, 3, 3);
+    }
+
+    static void reportOverTwelveLinks() {
+        Edge.says("II", "and if it has come over fewer than 12 LINKS.");
+        // c hangs on b; a and b hang on each other when c REPORTS in tick 63
+        SensorTree tree = Check.of("post r;post a;post b;post c;link r a 1;link a b 1;link b c 1;first 8;twice 4;enough 1;rise 999;fresh 60;");
+        tree.ticks(63);
+        tree.join(0, false);
+        Edge.due("circle()", tree.circle(), 6);
+        int reaches = tree.count(5);
+        tree.ticks(1);
+        // a puts on b's REPORT of tick 62, b what a told it of a and, older, of c; c REPORTS
+        Edge.due("REACHES in tick 63", tree.count(5), reaches + 3 + 1);
+        tree.ticks(1);
+        // a puts on what is older of c, and that is its end; c's REPORT came over one LINK
+        Edge.due("REACHES in tick 64", tree.count(5), reaches + 4 + 1 + 1);
+        for (int links = 2; links <= 14; links++) {
+            tree.ticks(1);
+            Edge.due("REACHES when it came over " + links, tree.count(5), reaches + 6 + Math.min(links - 1, 10));
+        }
+        Edge.due("circle() still", tree.circle(), 6);
+    }
+
     static void reachIsPutOn() {
         Edge.says("II", "it is put on to n's PARENT, if any, and if it has come over fewer than 12 LINKS.");
         SensorTree chain = Check.of("post r;post a;post b;post c;link r a 1;link a b 1;link b c 1;first 8;twice 4;enough 1;rise 999;fresh 60;");
