@@ -439,6 +439,48 @@ public final class EdgeTickTest {
         }
     }
 
+    static void reportsBehindTheTimers() {
+        Edge.says("II", "(3) POSTS on, by number, with a PARENT:");
+        // a rested in tick 5 and CHOOSES, which makes it REPORT; then, having a PARENT, it REPORTS as 5 has the rest 1 by 2
+        SensorTree rests = Check.of(PAIR + "goal costs;rise 0;rest 2;fresh 2;" + STEADY);
+        rests.ticks(4);
+        rests.cost(0, 9);
+        rests.ticks(1);
+        int sequence = rests.post(1, 6);
+        rests.ticks(1);
+        Edge.post(rests, 1, 5, 0);
+        Edge.post(rests, 1, 6, sequence + 2);
+        // x and f REPORT in one tick, but 199 messages are put on ahead of them: there is room for x's, the lower number's, alone
+        SensorTree full = Check.of("post r;post x;post y;post a;post c;post d;post f;link r x 1;link r y 1;link x a 1;link y a 2;link r c 1;"
+            + "link x d 1;link r f 1;goal costs;rise 999;apart 0;fresh 5;first 8;twice 4;");
+        full.ticks(40);
+        // d's REPORT of the tick ahead waits and will be put on by x; nobody FIRES in the next tick
+        Edge.until(full, () -> full.count(2) % 5 == 1 && full.count(3) == 1 && nobodyFires(full));
+        for (int i = 0; i < 99; i++) {
+            full.cost(2, i % 2 == 0 ? 9 : 1);
+        }
+        Edge.count(full, 3, 199);
+        int adverts = full.count(4);
+        int ofX = full.post(1, 6);
+        int ofF = full.post(6, 6);
+        full.ticks(1);
+        Edge.count(full, 4, adverts);
+        Edge.count(full, 3, 200);
+        Edge.post(full, 1, 6, ofX + 1);
+        Edge.post(full, 6, 6, ofF + 1);
+        full.ticks(1);
+        Edge.due("x's REPORT came", full.route(0, 1, 1), ofX + 1);
+        Edge.due("f's was not put", full.route(0, 6, 1), ofF);
+    }
+
+    private static boolean nobodyFires(SensorTree tree) {
+        boolean nobody = true;
+        for (int post = 0; post < tree.count(0); post++) {
+            nobody &= tree.post(post, FAR) + 1 != tree.post(post, FIRES);
+        }
+        return nobody;
+    }
+
     /** Of the POSTS 1 .. 6 the fifth is off and the sixth has no LINK, so no PARENT. */
     private static void reportsOf(SensorTree tree, int tick, int fresh) {
         int[] ahead = new int[7];

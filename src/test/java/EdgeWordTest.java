@@ -502,12 +502,13 @@ public final class EdgeWordTest {
         Edge.says("II", "REPAIR: the ROOT's VERSION is one more, its TIMER BEGINS ANEW.");
         SensorTree tree = Check.of(CHAIN + STEADY + "first 8;twice 3;seed 2;");
         Edge.until(tree, () -> tree.post(0, 7) == 64 && tree.post(0, 8) == 9);
+        String others = ofPost(tree, 1) + ofPost(tree, 2);
         tree.repair();
+        Edge.alike("the others", ofPost(tree, 1) + ofPost(tree, 2), others);
         Edge.post(tree, 0, 1, 1);
         Edge.post(tree, 0, 7, 8);
         Edge.post(tree, 0, 8, 0);
         Edge.post(tree, 0, 10, Edge.fires(8, 2, tree.count(2), 0));
-        Edge.due("the others' VERSION", tree.post(1, 1) + tree.post(2, 1), 0);
         Edge.post(tree, 0, 2, 10);
     }
 
