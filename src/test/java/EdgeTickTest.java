@@ -691,6 +691,37 @@ public final class EdgeTickTest {
         Edge.post(never, 4, 3, NOBODY);
     }
 
+    static void ranksBeyondNever() {
+        Edge.says("II", "of its NEIGHBOURS whose RANK, as it HEARD it, is less than NEVER, each by that and STEP:");
+        // four that are cut off count up by each other; a RANK of 9,910 and a STEP of 90 is 10,000, which nobody can hang on
+        SensorTree tree = Check.of("post r;post a;post b;post c;post d;link r a 9;link a b 9;link a c 9;link a d 9;link b c 9;link b d 9;"
+            + "link c d 9;goal costs;twice 1;first 2;enough 9;rise 210;rest 2;seed 28;");
+        tree.ticks(20);
+        tree.join(0, false);
+        tree.ticks(200);
+        int beyond = 0;
+        for (int i = 0; i < 30; i++) {
+            int most = 10;
+            for (int post = 1; post <= 4; post++) {
+                int parent = tree.post(post, 3);
+                int rank = tree.post(post, 2);
+                if (parent >= 0) {
+                    Edge.due("what it HEARD of its PARENT is less than NEVER", tree.heard(post, parent) < NEVER, true);
+                    Edge.due("RANK", rank, tree.heard(post, parent) + 90);
+                } else {
+                    Edge.due("RANK without PARENT", rank, NEVER);
+                }
+                beyond += rank > NEVER ? 1 : 0;
+                most = rank < NEVER ? Math.max(most, rank) : most;
+            }
+            Edge.due("the greatest RANK less than NEVER", tree.count(15), most);
+            tree.ticks(1);
+        }
+        Edge.due("some RANK was beyond NEVER", beyond > 0, true);
+        Edge.until(tree, () -> tree.count(17) == 0b11110 && tree.count(16) == 0);
+        Edge.due("at last all have none", tree.right(), 1);
+    }
+
     static void parentStays() {
         Edge.says("II", "if its PARENT is one of them, and the least is not less than its by more than APART, it stays.");
         // b HEARS r by 40 first, then a by 30
