@@ -259,7 +259,7 @@ public final class SensorTree {
         int at = post;
         for (int k = 0; k < i; k++) {
             at = now.posts[at].parent;
-            if (at == NOBODY) {
+            if (!plan.isPost(at)) {
                 return NONE;
             }
         }
@@ -1064,18 +1064,21 @@ public final class SensorTree {
             return plan.byCosts ? 10 * cost[link] : 10;
         }
 
+        /** False, too, for what is no POST: who asks this first may use both as an index, and their LINK. */
         boolean areNeighbours(int a, int b) {
+            if (a < 0 || a >= MOST_POSTS || b < 0 || b >= MOST_POSTS) {
+                return false;
+            }
             int link = plan.linkOf[a][b];
             return link != NONE && up[link] == 1 && posts[a].on && posts[b].on;
         }
 
         /** What RANK one would have below another, by what it HEARD of it. */
         int offer(int post, int other) {
-            int heard = posts[post].heard[other];
-            if (heard >= NEVER || !areNeighbours(post, other)) {
+            if (!areNeighbours(post, other) || posts[post].heard[other] >= NEVER) {
                 return NO_OFFER;
             }
-            return heard + stepOf(plan.linkOf[post][other]);
+            return posts[post].heard[other] + stepOf(plan.linkOf[post][other]);
         }
 
         /** The one that offers the least RANK, another one left aside; NOBODY if none does. */
@@ -1095,7 +1098,7 @@ public final class SensorTree {
         /** Whether one comes to the other by PARENTS, one at least. */
         boolean comesTo(int post, int other) {
             int at = posts[post].parent;
-            for (int i = 0; i < MOST_POSTS && at != NOBODY; i++) {
+            for (int i = 0; i < MOST_POSTS && plan.isPost(at); i++) {
                 if (at == other) {
                     return true;
                 }
@@ -1107,7 +1110,7 @@ public final class SensorTree {
         /** How many PARENTS stand above it up to the ROOT; 0 too if it does not come there. */
         int depth(int post) {
             int at = post;
-            for (int i = 0; i < MOST_POSTS && at != NOBODY; i++) {
+            for (int i = 0; i < MOST_POSTS && plan.isPost(at); i++) {
                 if (at == ROOT) {
                     return i;
                 }
@@ -1518,7 +1521,7 @@ public final class SensorTree {
             if (rank[post] >= NEVER) {
                 return p.rank == NEVER;
             }
-            if (p.parent == NOBODY || !net.areNeighbours(post, p.parent)) {
+            if (!net.areNeighbours(post, p.parent)) {
                 return false;
             }
             int step = net.stepOf(net.plan.linkOf[post][p.parent]);

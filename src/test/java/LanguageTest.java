@@ -15,10 +15,6 @@ import java.util.regex.Pattern;
 /** What of ../shared/LANGUAGE.md can be looked at from outside: the face, the sizes, the words that may not stand. */
 public final class LanguageTest {
     private static final Check check = new Check();
-    private static final String FACE = "feed(iiiii)i back(i)i read()i place()i ticks(i)i join(ib)b cost(ii)b power(ib)b "
-        + "repair()i send(ii)i undo()b post(ii)i heard(ii)i route(iii)i link(ii)i neighbours(i)i truth(i)i right()i "
-        + "circle()i below(i)i way(ii)i would(iii)i hop(iii)i soon()i busy(i)i cut(i)i needs(i)i spare(i)i deep()i "
-        + "reached()i lull(i)i stretch()i then(iii)i year(ii)i hold(i)b restore(i)b count(i)i";
 
     public static void main(String[] args) throws IOException {
         face();
@@ -35,7 +31,24 @@ public final class LanguageTest {
         return text.append(')').append(m.getReturnType().getName().charAt(0)).toString();
     }
 
-    private static void face() {
+    /** The document's face, each method as signature() tells it; its constant and its constructor are looked at here. */
+    private static Set<String> documentsFace() throws IOException {
+        String doc = Files.readString(Path.of("../shared/DOC.md"));
+        Matcher block = Pattern.compile("(?s)## The public face\\s+```java\n(.*?)```").matcher(doc);
+        String lines = block.find() ? block.group(1) : "";
+        check.due("NONE", lines.contains("public static final int NONE = " + SensorTree.NONE + ";"), true);
+        check.due("the constructor", lines.contains("public SensorTree();"), true);
+        Set<String> face = new TreeSet<>();
+        Matcher m = Pattern.compile("public (int|boolean) (\\w+)\\((.*?)\\);").matcher(lines);
+        while (m.find()) {
+            String given = m.group(3).replaceAll("(\\w)\\w* \\w+(, )?", "$1");
+            face.add(m.group(2) + "(" + given + ")" + m.group(1).charAt(0));
+        }
+        check.due("methods of the face", face.size(), 37);
+        return face;
+    }
+
+    private static void face() throws IOException {
         Set<String> open = new TreeSet<>();
         Set<String> names = new TreeSet<>();
         for (Method m : SensorTree.class.getDeclaredMethods()) {
@@ -46,8 +59,7 @@ public final class LanguageTest {
                 check.due(m + " is private", Modifier.isPrivate(m.getModifiers()), true);
             }
         }
-        Set<String> due = new TreeSet<>(Arrays.asList(FACE.split(" ")));
-        check.due("the face " + open, open.equals(due), true);
+        check.due("the face " + open, open.equals(documentsFace()), true);
         for (Class<?> inside : allClasses()) {
             for (Method m : inside.getDeclaredMethods()) {
                 boolean hides = names.contains(m.getName()) && Modifier.isPrivate(m.getModifiers());
@@ -57,6 +69,7 @@ public final class LanguageTest {
         for (Field f : SensorTree.class.getDeclaredFields()) {
             boolean isPrivate = Modifier.isPrivate(f.getModifiers());
             check.due(f + " is private or NONE", isPrivate || f.getName().equals("NONE"), true);
+            check.due(f + " is public only if NONE", Modifier.isPublic(f.getModifiers()) == f.getName().equals("NONE"), true);
         }
         Constructor<?>[] made = SensorTree.class.getDeclaredConstructors();
         check.due("one constructor", made.length, 1);
