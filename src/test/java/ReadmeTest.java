@@ -111,6 +111,7 @@ public final class ReadmeTest {
             check.due(word + " below", least == 0 || reads(word, least - 1) != 0, true);
             String goesOn = goesOn("");
             check.due(word + " as if told", goesOn(word + " " + m.group(2) + ";").equals(goesOn), true);
+            check.due(word + " is seen", goesOn(word + " " + most + ";").equals(goesOn), false);
         }
         check.due("settings", settings, 9);
     }
@@ -127,7 +128,9 @@ public final class ReadmeTest {
             tree.cost(i % 4, 1 + i * 7 % 9);
             line.append(Edge.all(tree)).append('\n');
         }
-        return line.toString();
+        // calm enough for TIMERS to become as long as they can
+        tree.ticks(200);
+        return line.append(Edge.all(tree)).toString();
     }
 
     private static void tests(String readme) throws IOException {
